@@ -506,7 +506,7 @@ public final class DayNames {
         private final int[] names = new int[MOST_DAYS + NIGHTS_FALLS];
         private final int[] purses = new int[MOST_BIDDERS];
         private final int[] debts = new int[MOST_DEBTS];
-        private int days, skipped, spent, ownName = NONE, ownCoins;
+        private int days, skipped, spent, ownName, ownCoins;
 
         void begin(Town town) {
             for (int b = 0; b < purses.length; b++) purses[b] = town.ofBidder(b, Town.PURSE);
@@ -681,7 +681,6 @@ public final class DayNames {
         /** The name that is sold, or SKIPPED. */
         int close(Moment moment) {
             winner = bids.winner();
-            price = 0;
             if (winner == NONE) {
                 moment.skipped++;
                 return SKIPPED;

@@ -131,6 +131,9 @@ public final class ComingTest {
         Check.due("ring(1, 0, 1)", x.ring(1, 0, 1), 5);
         Check.due("ring(0, 1, 2)", x.ring(0, 1, 2), 9);
         Check.due("nothing is changed", x.now(0), 0);
+        // 0 pays 2 against the 1 of the other, and 1 as a ring, on each of 20 NIGHTS
+        DayNames twenty = Check.town("b9 2 2 0 0 0 0;b9 2 1 0 0 0 0;r0;");
+        Check.due("ring(0, 1, 20)", twenty.ring(0, 1, 20), 20);
         DayNames other = Check.town("b9 0 4 0 0 0 0;b9 0 0 3 0 0 0;b9 0 0 0 8 0 0;");
         Check.due("a ring without the winner", other.ring(0, 1, 1), 0);
         Check.due("what the others pay does not count", other.ring(0, 2, 1), 5 - 4);

@@ -108,6 +108,8 @@ public final class FoundPlanOddsTest {
         plans(x, 0, 14 + 2 * 3 - 5, 6 + 1 * 3 + 5);
         x.unplan();
         plans(x, 0, 14, 6);
+        x.plan(0);
+        plans(x, 0, 16, 7);
         Check.due("planned(0) of a new object", new DayNames().planned(0), DayNames.BAD);
         Check.due("planned(-1) of a new object", new DayNames().planned(-1), 0);
     }

@@ -146,12 +146,15 @@ public final class NightTest {
     }
 
     private static void never() {
+        DayNames wanted = Check.town("b0 0 1 0 0 0 0;b0 0 0 1 0 0 0;o0 1 1 1 0;o0 1 1 1 1;o0 1 1 1 2;");
+        Check.due("NEVER: what is WORTH something to one of them is not", wanted.now(4), 4);
         DayNames x = Check.town("b1 0 1 0 0 0 0;b1 0 1 0 0 0 0;o0 1 1 1 4;o0 1 1 1 0;o1 0 1 5 3;");
         Check.due("NEVER", x.now(4), 5);
         x.bids(4, 5);
         Check.nights(x, 4);
         Check.due("SPENT", x.now(2), 2);
         Check.due("NEVER: not one that was due", x.now(4), 4);
+        Check.due("the latest DAY of a NAME, the first of all", x.name(4, 1), 1);
         Check.due("paid", x.debt(0, 5), 1);
     }
 

@@ -128,6 +128,9 @@ public final class TownTest {
         fault("b100 0 0 0 0 0 0;", 1);
         fault("b99 10 0 0 0 0 0;", 4);
         fault("b99 9 21 0 0 0 0;", 6);
+        fault("b99 9 20 21 20 20 20;", 9);
+        fault("b99 9 20 20 21 20 20;", 12);
+        fault("b99 9 20 20 20 21 20;", 15);
         fault("b99 9 20 20 20 20 21;", 18);
         fault("b1 2 3 4 5 6;", 12);
         fault("b1 2 3 4 5 6 7 8;", 15);
@@ -208,6 +211,8 @@ public final class TownTest {
         x.bids(3, 9);
         Check.type(x, "b7 0 0 0 0 0 0;");
         Check.due("town() anew", x.town(), 1);
+        Check.due("a BIDDER of before", x.bidder(1, 0), DayNames.BAD);
+        Check.due("a DEBT of before", x.debt(0, 0), DayNames.BAD);
         for (int what = 0; what < 6; what++) Check.due("now(" + what + ") anew", x.now(what), 0);
         int[] counts = {1, 1, 0, 0, 0, 0};
         for (int what = 0; what < 6; what++) Check.due("count(" + what + ") anew", x.count(what), counts[what]);
@@ -217,6 +222,31 @@ public final class TownTest {
         Check.due("undo() anew", x.undo(), DayNames.STATE);
         Check.due("THE TRACE goes on", x.trace(), 11);
         Check.due("one's OWN bid anew", x.bids(0, 1), DayNames.NONE);
+        debtsAnew();
+        lettersOfBefore();
+    }
+
+    private static void debtsAnew() {
+        DayNames x = Check.town(BIDDER + BIDDER + "o0 1 50 1 4;");
+        x.bids(4, 40);
+        Check.nights(x, 4);
+        Check.due("a DEFAULT", x.debt(0, 5), 2);
+        Check.type(x, BIDDER + BIDDER + "o0 1 1 1 4;");
+        x.town();
+        Check.due("how a DEBT is anew", x.debt(0, 5), 0);
+    }
+
+    private static void lettersOfBefore() {
+        DayNames x = new DayNames();
+        Check.type(x, "r1  ;");
+        x.clear();
+        Check.type(x, "r1");
+        Check.due("town() of r1, behind a longer text", x.town(), -10 - 2);
+        x.clear();
+        Check.type(x, "r77");
+        x.clear();
+        Check.type(x, "r7");
+        Check.due("town() of r7, behind a longer text", x.town(), -10 - 2);
     }
 
     private static void wrongNumbers() {
