@@ -19,24 +19,20 @@ public final class NightTest {
         Check.finish();
     }
 
-    private static void purses(DayNames x, int... purses) {
-        for (int b = 0; b < purses.length; b++) Check.due("PURSE of " + b, x.bidder(b, 0), purses[b]);
-    }
-
     private static void nightsOfTwo() {
         DayNames x = Check.town(TWO);
         Check.nights(x, 1);
-        purses(x, 12, 5);
+        Check.purses(x, 12, 5);
         Check.due("a DEFAULT", x.debt(1, 5), 2);
         Check.due("DEFAULTS", x.now(3), 1);
         Check.nights(x, 0);
-        purses(x, 9, 6);
+        Check.purses(x, 9, 6);
         Check.due("not due yet", x.debt(0, 5), 0);
         Check.nights(x, 1);
-        purses(x, 6, 8);
+        Check.purses(x, 6, 8);
         Check.due("paid", x.debt(0, 5), 1);
         Check.nights(x, 0, 1);
-        purses(x, 5, 6);
+        Check.purses(x, 5, 6);
         Check.days(x, 1, 0, 1, 0, 1);
         int[][] names = {{2, 4, 0}, {3, 5, 1}, {0, 0, 0}};
         for (int n = 0; n < 3; n++) {
@@ -52,16 +48,16 @@ public final class NightTest {
     private static void whoHasIt() {
         DayNames alone = Check.town("b9 0 0 7 7 0 0;");
         Check.nights(alone, 1);
-        purses(alone, 8);
+        Check.purses(alone, 8);
         DayNames alike = Check.town("b9 0 0 0 5 0 0;b9 0 5 0 0 0 0;");
         Check.nights(alike, 2);
-        purses(alike, 4, 9);
+        Check.purses(alike, 4, 9);
         DayNames higher = Check.town("b9 0 0 3 0 0 0;b9 0 0 8 0 0 0;");
         Check.nights(higher, 1);
-        purses(higher, 9, 5);
+        Check.purses(higher, 9, 5);
         DayNames poor = Check.town("b4 0 5 4 0 0 0;");
         Check.nights(poor, 1);
-        purses(poor, 3);
+        Check.purses(poor, 3);
         DayNames exactly = Check.town("b5 0 5 4 0 0 0;");
         Check.nights(exactly, 0);
     }
@@ -85,7 +81,7 @@ public final class NightTest {
         Check.due("bids(3, 7)", x.bids(3, 7), 0);
         Check.nights(x, 3);
         Check.due("SPENT", x.now(2), 7);
-        purses(x, 12, 11);
+        Check.purses(x, 12, 11);
         x.bids(2, 6);
         Check.nights(x, 1);
         Check.due("one's own bid is last of those alike", x.now(2), 7);
@@ -101,7 +97,7 @@ public final class NightTest {
         DayNames against = Check.town(TWO);
         against.bids(1, 5);
         Check.nights(against, 1);
-        purses(against, 12, 5);
+        Check.purses(against, 12, 5);
     }
 
     private static void ownBidIsForOneNight() {
@@ -111,7 +107,7 @@ public final class NightTest {
         Check.due("one's OWN bid is gone", x.bids(1, 40), DayNames.NONE);
         Check.nights(x, 0);
         Check.due("a barred NAME is no bid", x.now(2), 0);
-        purses(x, 9, 6);
+        Check.purses(x, 9, 6);
         Check.nights(x, 1);
         DayNames skip = new DayNames();
         skip.bids(2, 1);
@@ -124,12 +120,12 @@ public final class NightTest {
     private static void skipped() {
         DayNames x = Check.town("b3 5 4 0 0 0 0;b0 5 0 0 0 0 0;o0 1 1 1 0;");
         Check.nights(x, -5, -5);
-        purses(x, 3, 0);
+        Check.purses(x, 3, 0);
         Check.due("SKIPPED", x.now(1), 2);
         Check.due("DAYS", x.now(0), 0);
         x.bids(4, 1);
         Check.nights(x, 4, 0);
-        purses(x, 11, 11);
+        Check.purses(x, 11, 11);
     }
 
     private static void debtsByNumbers() {
@@ -137,12 +133,12 @@ public final class NightTest {
         Check.nights(x, 0);
         int[] how = {2, 1, 1, 2};
         for (int d = 0; d < 4; d++) Check.due("debt(" + d + ", 5)", x.debt(d, 5), how[d]);
-        purses(x, 0, 0, 4);
+        Check.purses(x, 0, 0, 4);
         Check.due("DEFAULTS", x.now(3), 2);
         DayNames wage = Check.town("b1 3 1 0 0 0 0;b0 0 0 0 0 0 0;o0 1 3 1 0;");
         Check.nights(wage, 0);
         Check.due("the WAGE comes ahead of DEBTS", wage.debt(0, 5), 1);
-        purses(wage, 0, 3);
+        Check.purses(wage, 0, 3);
     }
 
     private static void never() {
@@ -224,7 +220,7 @@ public final class NightTest {
         Check.due("undo() of night()", x.undo(), 1);
         Check.due("DAYS", x.now(0), 0);
         Check.due("SPENT", x.now(2), 0);
-        purses(x, 10, 10);
+        Check.purses(x, 10, 10);
         Check.nights(x, 4);
         Check.due("one's OWN bid was there again", x.now(2), 7);
         Check.nights(x, 1);

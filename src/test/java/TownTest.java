@@ -81,100 +81,89 @@ public final class TownTest {
         }
     }
 
-    private static void reads(String text, int answer) {
-        DayNames x = new DayNames();
-        Check.type(x, text);
-        Check.due("town() of '" + text + "'", x.town(), answer);
-        Check.due("letters behind town() of '" + text + "'", x.count(5), answer < 0 ? text.length() : 0);
-    }
-
-    private static void fault(String text, int place) {
-        reads(text, -10 - place);
-    }
-
     private static void blanks() {
-        reads("", 0);
-        reads("   ", 0);
-        reads("  b 1  2 3 4 5 6   7 ;  r  0 ; ", 2);
-        reads("b1 2 3 4 5 6 7;b1 2 3 4 5 6 7;o0 1 1 1 1;r2;", 4);
-        reads("r2;" + BIDDER + "b1 2 3 4 5 6 7;o1 0 1 1 1;", 4);
+        Check.reads("", 0);
+        Check.reads("   ", 0);
+        Check.reads("  b 1  2 3 4 5 6   7 ;  r  0 ; ", 2);
+        Check.reads("b1 2 3 4 5 6 7;b1 2 3 4 5 6 7;o0 1 1 1 1;r2;", 4);
+        Check.reads("r2;" + BIDDER + "b1 2 3 4 5 6 7;o1 0 1 1 1;", 4);
     }
 
     private static void faultsOfTokens() {
-        fault("x", 0);
-        fault("  B1", 2);
-        fault("b 1\t2 3 4 5 6 7;", 3);
-        fault(BIDDER + "?", 15);
-        fault("r;", 1);
-        fault("1;", 0);
-        fault(";", 0);
-        fault("r1;;", 3);
-        fault("r01;", 1);
-        fault("r00;", 1);
-        fault("r 100;", 2);
-        fault("b1 2 3 4 5 6 7" + "7;", 13);
-        fault("b99999999999999999999 1;", 1);
-        fault("b4294967296 1;", 1);
-        fault("b1 2 3 4 5 6 7 b", 15);
-        fault("b1 2 3r", 6);
-        fault("b1 2 3r4;", 6);
-        fault("b1 2 3 o0 1 1 1 1;", 7);
-        fault("b1 2 b1 2 3 4 5 6 7;", 5);
-        fault("r o;", 2);
-        fault("r1" + (char) 255, 2);
+        Check.fault("x", 0);
+        Check.fault("  B1", 2);
+        Check.fault("b 1\t2 3 4 5 6 7;", 3);
+        Check.fault(BIDDER + "?", 15);
+        Check.fault("r;", 1);
+        Check.fault("1;", 0);
+        Check.fault(";", 0);
+        Check.fault("r1;;", 3);
+        Check.fault("r01;", 1);
+        Check.fault("r00;", 1);
+        Check.fault("r 100;", 2);
+        Check.fault("b1 2 3 4 5 6 7" + "7;", 13);
+        Check.fault("b99999999999999999999 1;", 1);
+        Check.fault("b4294967296 1;", 1);
+        Check.fault("b1 2 3 4 5 6 7 b", 15);
+        Check.fault("b1 2 3r", 6);
+        Check.fault("b1 2 3r4;", 6);
+        Check.fault("b1 2 3 o0 1 1 1 1;", 7);
+        Check.fault("b1 2 b1 2 3 4 5 6 7;", 5);
+        Check.fault("r o;", 2);
+        Check.fault("r1" + (char) 255, 2);
     }
 
     private static void faultsOfBidders() {
-        fault("b100 0 0 0 0 0 0;", 1);
-        fault("b99 10 0 0 0 0 0;", 4);
-        fault("b99 9 21 0 0 0 0;", 6);
-        fault("b99 9 20 21 20 20 20;", 9);
-        fault("b99 9 20 20 21 20 20;", 12);
-        fault("b99 9 20 20 20 21 20;", 15);
-        fault("b99 9 20 20 20 20 21;", 18);
-        fault("b1 2 3 4 5 6;", 12);
-        fault("b1 2 3 4 5 6 7 8;", 15);
+        Check.fault("b100 0 0 0 0 0 0;", 1);
+        Check.fault("b99 10 0 0 0 0 0;", 4);
+        Check.fault("b99 9 21 0 0 0 0;", 6);
+        Check.fault("b99 9 20 21 20 20 20;", 9);
+        Check.fault("b99 9 20 20 21 20 20;", 12);
+        Check.fault("b99 9 20 20 20 21 20;", 15);
+        Check.fault("b99 9 20 20 20 20 21;", 18);
+        Check.fault("b1 2 3 4 5 6;", 12);
+        Check.fault("b1 2 3 4 5 6 7 8;", 15);
     }
 
     private static void faultsOfBars() {
-        fault("r8;", 1);
-        fault("r1;r1;", 3);
-        fault("r1 1;", 3);
-        fault("r1;" + BIDDER + "r1;", 18);
+        Check.fault("r8;", 1);
+        Check.fault("r1;r1;", 3);
+        Check.fault("r1 1;", 3);
+        Check.fault("r1;" + BIDDER + "r1;", 18);
     }
 
     private static void faultsOfDebts() {
         String two = BIDDER + BIDDER;
-        fault("o0 1 1 1 1;", 1);
-        fault(BIDDER + "o0 1 1 1 1;", 18);
-        fault(two + "o0 0 1 1 1;", 33);
-        fault(two + "o2 0 1 1 1;", 31);
-        fault(two + "o0 2 1 1 1;", 33);
-        fault(two + "o0 1 0 1 1;", 35);
-        fault(two + "o0 1 51 1 1;", 35);
-        fault(two + "o0 1 50 0 1;", 38);
-        fault(two + "o0 1 50 6 1;", 38);
-        fault(two + "o0 1 50 5 5;", 40);
-        fault(two + "o0 1 50 5;", 39);
+        Check.fault("o0 1 1 1 1;", 1);
+        Check.fault(BIDDER + "o0 1 1 1 1;", 18);
+        Check.fault(two + "o0 0 1 1 1;", 33);
+        Check.fault(two + "o2 0 1 1 1;", 31);
+        Check.fault(two + "o0 2 1 1 1;", 33);
+        Check.fault(two + "o0 1 0 1 1;", 35);
+        Check.fault(two + "o0 1 51 1 1;", 35);
+        Check.fault(two + "o0 1 50 0 1;", 38);
+        Check.fault(two + "o0 1 50 6 1;", 38);
+        Check.fault(two + "o0 1 50 5 5;", 40);
+        Check.fault(two + "o0 1 50 5;", 39);
     }
 
     private static void tooMany() {
         String four = BIDDER + BIDDER + BIDDER + BIDDER;
-        reads(four, 4);
-        fault(four + " b", 61);
+        Check.reads(four, 4);
+        Check.fault(four + " b", 61);
         String six = BIDDER + BIDDER;
         for (int d = 0; d < 6; d++) six += "o0 1 1 1 1;";
-        reads(six, 8);
-        fault(six + "o", 96);
+        Check.reads(six, 8);
+        Check.fault(six + "o", 96);
     }
 
     private static void tooEarly() {
-        fault("b", 1);
-        fault("b  ", 3);
-        fault("b1 2 3 4 5 6 7", 14);
-        fault("b1 2 3 4 5 6 7 ", 15);
-        fault("r1", 2);
-        fault(BIDDER + "o", 16);
+        Check.fault("b", 1);
+        Check.fault("b  ", 3);
+        Check.fault("b1 2 3 4 5 6 7", 14);
+        Check.fault("b1 2 3 4 5 6 7 ", 15);
+        Check.fault("r1", 2);
+        Check.fault(BIDDER + "o", 16);
     }
 
     private static void aFaultChangesNothing() {
