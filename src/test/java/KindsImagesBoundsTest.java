@@ -240,6 +240,22 @@ public final class KindsImagesBoundsTest {
         Check.due("SPENT", x.now(2), 1);
     }
 
+    /** Promise 28: "NOW (DAYS and their NAMES, PURSES, DEBTS, SKIPPED, SPENT, DEFAULTS, one's OWN bid)". Its coins, too. */
+    static void coinsOfTheImage() {
+        DayNames x = Check.town("b20 0 8 0 0 0 0;");
+        x.bids(4, 5);
+        x.keep(0);
+        x.bids(4, 40);
+        x.keep(1);
+        x.back(0);
+        Check.nights(x, 0);
+        x.back(1);
+        Check.nights(x, 4);
+        x.back(0);
+        Check.nights(x, 0);
+        Check.purses(x, 20 - 6);
+    }
+
     /** Promise 28: "nothing else (nothing can be UNDONE behind back())". FOUND, PLAN, THE TEXT stay as they are. */
     static void nothingElse() {
         DayNames x = Check.town("b9 1 1 1 0 0 0;");

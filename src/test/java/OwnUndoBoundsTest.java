@@ -276,6 +276,22 @@ public final class OwnUndoBoundsTest {
         Check.due("SPENT", x.now(2), 0);
     }
 
+    /** Promise 12: "the latest night(), bids() that was not refused". The coins of the bid ahead of it are there again. */
+    static void coinsUndone() {
+        DayNames x = Check.town(TWO);
+        x.bids(4, 5);
+        x.bids(4, 40);
+        x.undo();
+        Check.nights(x, 0);
+        x.undo();
+        x.bids(3, 9);
+        Check.nights(x, 3);
+        x.undo();
+        x.undo();
+        Check.nights(x, 0);
+        Check.due("SPENT", x.now(2), 0);
+    }
+
     /** Promise 12: "the latest night(), bids() that was not refused". Of a NIGHT, all is as ahead of it: the bid, too. */
     static void aNightUndone() {
         DayNames x = Check.town("b9 4 0 0 0 0 0;b9 0 0 0 0 0 0;o0 1 13 1 3;o1 0 50 1 3;");

@@ -265,6 +265,36 @@ public final class TownBoundsTest {
         bad("debt(0, 5)", x.debt(0, 5));
     }
 
+    /** Promise 4: "THE TEXT tells all anew". BIDDERS of before do not bid, and what was WORTH something to them is not. */
+    static void biddersOfBefore() {
+        DayNames x = Check.town("b0 0 0 0 0 0 0;b9 0 0 2 0 0 0;b9 0 0 0 3 0 0;");
+        Check.nights(x, 2);
+        tell(x, "b5 1 0 0 0 0 0;", 1);
+        Check.nights(x, -5);
+        Check.due("inNights(20, 1)", x.inNights(20, 1), 0);
+        tell(x, TWO + TWO, 4);
+        tell(x, "b5 0 0 0 0 0 0;b5 0 0 0 0 0 0;o0 1 1 1 1;", 3);
+        Check.due("NEVER", x.now(4), 1);
+    }
+
+    /** Promise 4: "THE TEXT tells all anew". DEBTS of before are not paid, not owed, no DEFAULTS; nor is one of a FAULT. */
+    static void debtsOfBefore() {
+        DayNames x = Check.town("b9 0 0 0 0 0 0;b9 0 0 0 0 0 0;" + "o0 1 2 1 3;".repeat(6));
+        tell(x, "b9 0 0 0 0 0 0;b9 0 0 0 0 0 0;o0 1 1 1 3;", 3);
+        Check.due("rate(2, 0)", x.rate(2, 0), 8);
+        Check.due("NEVER", x.now(4), 1);
+        x.bids(3, 1);
+        Check.nights(x, 3);
+        Check.purses(x, 8, 10);
+        Check.due("DEFAULTS", x.now(3), 0);
+        tell(x, TWO + "o0 1 50 1 3;o1 0 50 1 3;x", -10 - 54);
+        tell(x, "b9 0 0 0 0 0 0;b9 0 0 0 0 0 0;", 2);
+        x.plan(3);
+        Check.due("planned(-1)", x.planned(-1), 0);
+        Check.due("planned(0)", x.planned(0), 9);
+        Check.due("rate(2, 1)", x.rate(2, 1), 9);
+    }
+
     /** Promise 4: "Read anew: as told (what is not told as at first)". One's OWN bid is none. */
     static void noOwnBidAnew() {
         DayNames x = lived();
