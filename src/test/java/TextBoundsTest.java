@@ -88,6 +88,11 @@ public final class TextBoundsTest {
         Check.type(x, "r1");
         Check.due("town() of r1, r1; before", x.town(), -10 - 2);
         x.clear();
+        Check.type(x, "r1  ;");
+        x.clear();
+        Check.type(x, "r1");
+        Check.due("town() of r1, blanks behind it before", x.town(), -10 - 2);
+        x.clear();
         Check.type(x, "r75;");
         x.clear();
         Check.type(x, "r7");
